@@ -431,6 +431,7 @@ public final class LinkResolver {
      */
     private static final class History {
         Change newest;
+        /** Of stays alone, and of now: which day is asked about does not matter to them. */
         int breaks;
 
         History() {

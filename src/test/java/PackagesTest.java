@@ -78,6 +78,9 @@ public final class PackagesTest {
         x.pass(400);
         Check.yes("6: it stays subscribed to", x.subscribe(0, false));
         Check.yes("6: the days before stay", x.isSubscribed(0, 399));
+        x.pass(1);
+        Check.no("6: it was yesterday's, not the first day's", x.subscribe(0, true));
+        Check.yes("6: it is today's", x.subscribe(0, true));
     }
 
     private static void subscribeRefuses() {
@@ -103,7 +106,8 @@ public final class PackagesTest {
         Check.yes("7: it stays", x.come(0, 0, 0, 55, 0));
         x.subscribe(0, true);
         Check.yes("7: the new years count", x.covers(0, 0, 0, 0, 1));
-        x.come(0, 0, 0, 55, 1);
+        x.go(0, 0);
+        Check.no("7: come after go of today", x.come(0, 0, 0, 55, 1));
         Check.no("7: the new wall counts", x.covers(0, 0, 0, 0, 1));
         x.pass(360);
         Check.yes("7: the wall has moved", x.covers(0, 0, 0, 0, 361));

@@ -378,6 +378,13 @@ public final class WaysTest {
         Check.same("19: not next to each other", x.doubles(0, 0), 2);
         x.subscribe(0, false);
         Check.same("19: no doubles", x.doubles(0, 0), 0);
+        x.addTitle(0, 1);
+        Check.same("19: no ways to the year 0", x.doubles(1, 0), 0);
+        x.subscribe(0, true);
+        x.come(0, 1, 0, 0, 0);
+        Check.same("19: one way to the year 0", x.doubles(1, 0), 0);
+        x.come(1, 1, 0, 0, 0);
+        Check.same("19: two ways to the year 0", x.doubles(1, 0), 1);
     }
 
     private static void doublesRefuse() {
