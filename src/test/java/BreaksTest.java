@@ -5,6 +5,8 @@ public final class BreaksTest {
     public static void main(String[] args) {
         Check.begin();
         reportsAndMends();
+        needsNoStay();
+        eachHasItsOwn();
         refuses();
         manyReports();
         Check.end();
@@ -38,6 +40,42 @@ public final class BreaksTest {
         x.subscribe(0, true);
         x.subscribe(0, false);
         Check.same("13: come and go mend nothing", x.report(0, 0), 2);
+    }
+
+    /** A break needs neither a subscription nor the title in the package, and stays when it goes. */
+    private static void needsNoStay() {
+        LinkResolver x = two();
+        Check.same("13: the title never came", x.report(1, 1), 1);
+        x.come(1, 1, 0, 55, 0);
+        Check.same("13: the title has come", x.report(1, 1), 2);
+        x.go(1, 1);
+        Check.same("13: the title has gone", x.report(1, 1), 3);
+        x.pass(20000);
+        Check.same("13: on the last day", x.report(1, 1), 4);
+        Check.same("14: all of them", x.mend(1, 1), 4);
+        Check.same("14: none is left", x.mend(1, 1), 0);
+        Check.same("13: the first one again", x.report(1, 1), 1);
+    }
+
+    /** Ten packages and 20 titles have breaks of their own. */
+    private static void eachHasItsOwn() {
+        LinkResolver x = new LinkResolver();
+        for (int title = 0; title < 20; title++) {
+            x.addTitle(0, 1);
+        }
+        for (int pack = 0; pack < 10; pack++) {
+            x.addPackage(0, 0, 15, 0);
+        }
+        for (int pack = 0; pack < 10; pack++) {
+            for (int title = pack % 2; title < 20; title += 2) {
+                Check.same("13: report(" + pack + ", " + title + ")", x.report(pack, title), 1);
+            }
+        }
+        for (int pack = 0; pack < 10; pack++) {
+            for (int title = 0; title < 20; title++) {
+                Check.same("14: mend(" + pack + ", " + title + ")", x.mend(pack, title), (pack + title + 1) % 2);
+            }
+        }
     }
 
     private static void refuses() {

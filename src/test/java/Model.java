@@ -26,26 +26,27 @@ final class Model {
     /** The answer of a call, a boolean as 1 or 0, nothing as 0; or it throws as the document says. */
     long call(int which, int[] a) {
         switch (which) {
-            case 0: return addTitle(a[0], a[1]);
-            case 1: return yearOf(a[0], a[1]);
-            case 2: return volumeOf(a[0], a[1]);
-            case 3: return addPackage(a[0], a[1], a[2], a[3]);
-            case 4: return subscribe(a[0], a[1] == 1);
-            case 5: return come(a[0], a[1], a[2], a[3], a[4]);
-            case 6: return go(a[0], a[1]);
-            case 7: return pass(a[0]);
-            case 8: return today;
-            case 9: pack(a[0]); range(a[1], 0, today); return bit(subscribed(a[0], a[1]));
-            case 10: pack(a[0]); title(a[1]); range(a[2], 0, today); return bit(isIn(a[0], a[1], a[2]));
-            case 11: pack(a[0]); title(a[1]); return ++breaks[a[0]][a[1]];
-            case 12: return mend(a[0], a[1]);
-            case 13: pack(a[0]); title(a[1]); article(a[2], a[3], a[4]);
+            case Calls.ADD_TITLE: return addTitle(a[0], a[1]);
+            case Calls.YEAR_OF: return yearOf(a[0], a[1]);
+            case Calls.VOLUME_OF: return volumeOf(a[0], a[1]);
+            case Calls.ADD_PACKAGE: return addPackage(a[0], a[1], a[2], a[3]);
+            case Calls.SUBSCRIBE: return subscribe(a[0], a[1] == 1);
+            case Calls.COME: return come(a[0], a[1], a[2], a[3], a[4]);
+            case Calls.GO: return go(a[0], a[1]);
+            case Calls.PASS: return pass(a[0]);
+            case Calls.TODAY: return today;
+            case Calls.IS_SUBSCRIBED: pack(a[0]); range(a[1], 0, today); return bit(subscribed(a[0], a[1]));
+            case Calls.IS_IN: pack(a[0]); title(a[1]); range(a[2], 0, today); return bit(isIn(a[0], a[1], a[2]));
+            case Calls.REPORT: pack(a[0]); title(a[1]); return ++breaks[a[0]][a[1]];
+            case Calls.MEND: return mend(a[0], a[1]);
+            case Calls.COVERS: pack(a[0]); title(a[1]); article(a[2], a[3], a[4]);
                 return bit(covers(a[0], a[1], a[2], a[3], a[4]));
-            case 14: title(a[0]); article(a[1], a[2], a[3]); return ways(a[0], a[1], a[2], a[3]).size();
-            case 15: return wayAt(a[0], a[1], a[2], a[3], a[4]);
-            case 16: return gap(a[0], a[1]);
-            case 17: return doubles(a[0], a[1]);
-            default: return bit(isNeedless(a[0]));
+            case Calls.WAYS: title(a[0]); article(a[1], a[2], a[3]); return ways(a[0], a[1], a[2], a[3]).size();
+            case Calls.WAY_AT: return wayAt(a[0], a[1], a[2], a[3], a[4]);
+            case Calls.GAP: return gap(a[0], a[1]);
+            case Calls.DOUBLES: return doubles(a[0], a[1]);
+            case Calls.IS_NEEDLESS: return bit(isNeedless(a[0]));
+            default: throw new IllegalArgumentException("no such call");
         }
     }
 

@@ -4,10 +4,7 @@ import java.util.Random;
 public final class ModelTest {
     private static final int RUNS = 400;
     private static final int CALLS = 512;
-    private static final String[] NAMES = {
-        "addTitle", "yearOf", "volumeOf", "addPackage", "subscribe", "come", "go", "pass", "today",
-        "isSubscribed", "isIn", "report", "mend", "covers", "ways", "wayAt", "gap", "doubles", "isNeedless"};
-    /** How often each call is drawn, in the order of NAMES. */
+    /** How often each call is drawn, in the order of their numbers in Calls. */
     private static final int[] OFTEN = {2, 2, 2, 2, 9, 12, 4, 10, 1, 3, 3, 5, 2, 15, 8, 12, 8, 8, 6};
 
     private final Random random;
@@ -47,12 +44,12 @@ public final class ModelTest {
                 which++;
             }
             if (call < mostTitles) {
-                which = 0;
+                which = Calls.ADD_TITLE;
             } else if (call < mostTitles + mostPacks) {
-                which = 3;
-            } else if (which == 0 && model.titles() >= mostTitles && random.nextInt(4) != 0
-                    || which == 3 && model.packs() >= mostPacks && random.nextInt(4) != 0) {
-                which = 5;
+                which = Calls.ADD_PACKAGE;
+            } else if (which == Calls.ADD_TITLE && model.titles() >= mostTitles && random.nextInt(4) != 0
+                    || which == Calls.ADD_PACKAGE && model.packs() >= mostPacks && random.nextInt(4) != 0) {
+                which = Calls.COME;
             }
             if (!compare(call, which, arguments(which))) {
                 return;
@@ -61,73 +58,36 @@ public final class ModelTest {
     }
 
     private boolean compare(int call, int which, int[] a) {
-        String due;
-        String got;
-        try {
-            due = String.valueOf(model.call(which, a));
-        } catch (RuntimeException e) {
-            due = e.getClass().getName();
-        }
-        try {
-            got = String.valueOf(ask(which, a));
-        } catch (RuntimeException e) {
-            got = e.getClass().getName();
-        }
+        String due = Calls.due(model, which, a);
+        String got = Calls.answer(x, which, a);
         if (due.equals(got)) {
             Check.right();
             return true;
         }
-        StringBuilder told = new StringBuilder(NAMES[which]);
-        for (int argument : a) {
-            told.append(' ').append(argument);
-        }
-        Check.fails("run " + run + ", call " + call + ": " + told + " answered " + got + ", due is " + due);
+        Check.fails("run " + run + ", call " + call + ": " + Calls.told(which, a)
+                + " answered " + got + ", due is " + due);
         return false;
-    }
-
-    private long ask(int which, int[] a) {
-        switch (which) {
-            case 0: return x.addTitle(a[0], a[1]);
-            case 1: return x.yearOf(a[0], a[1]);
-            case 2: return x.volumeOf(a[0], a[1]);
-            case 3: return x.addPackage(a[0], a[1], a[2], a[3]);
-            case 4: return x.subscribe(a[0], a[1] == 1) ? 1 : 0;
-            case 5: return x.come(a[0], a[1], a[2], a[3], a[4]) ? 1 : 0;
-            case 6: x.go(a[0], a[1]); return 0;
-            case 7: return x.pass(a[0]);
-            case 8: return x.today();
-            case 9: return x.isSubscribed(a[0], a[1]) ? 1 : 0;
-            case 10: return x.isIn(a[0], a[1], a[2]) ? 1 : 0;
-            case 11: return x.report(a[0], a[1]);
-            case 12: return x.mend(a[0], a[1]);
-            case 13: return x.covers(a[0], a[1], a[2], a[3], a[4]) ? 1 : 0;
-            case 14: return x.ways(a[0], a[1], a[2], a[3]);
-            case 15: return x.wayAt(a[0], a[1], a[2], a[3], a[4]);
-            case 16: return x.gap(a[0], a[1]);
-            case 17: return x.doubles(a[0], a[1]);
-            default: return x.isNeedless(a[0]) ? 1 : 0;
-        }
     }
 
     private int[] arguments(int which) {
         int year = model.today() / 360;
         switch (which) {
-            case 0: return new int[] {near(0, Math.min(55, 10)), near(1, 4)};
-            case 1: return new int[] {title(), near(1, 230)};
-            case 2: return new int[] {title(), near(0, 55)};
-            case 3: return new int[] {near(0, random.nextBoolean() ? 2 : 1000), near(0, 2),
+            case Calls.ADD_TITLE: return new int[] {near(0, Math.min(55, 10)), near(1, 4)};
+            case Calls.YEAR_OF: return new int[] {title(), near(1, 230)};
+            case Calls.VOLUME_OF: return new int[] {title(), near(0, 55)};
+            case Calls.ADD_PACKAGE: return new int[] {near(0, random.nextBoolean() ? 2 : 1000), near(0, 2),
                 random.nextInt(3) == 0 ? near(0, 15) : 15, near(0, 1)};
-            case 4: return new int[] {pack(), random.nextInt(3) == 0 ? 0 : 1};
-            case 5: return come(year);
-            case 7: return new int[] {days()};
-            case 8: return new int[0];
-            case 9: return new int[] {pack(), day()};
-            case 10: return new int[] {pack(), title(), day()};
-            case 13: return new int[] {pack(), title(), near(0, Math.min(55, year + 1)), group(), day()};
-            case 14: return new int[] {title(), near(0, Math.min(55, year + 1)), group(), day()};
-            case 15: return new int[] {near(0, 4), title(), near(0, Math.min(55, year + 1)), group(), day()};
-            case 16: case 17: return new int[] {title(), group()};
-            case 18: return new int[] {pack()};
+            case Calls.SUBSCRIBE: return new int[] {pack(), random.nextInt(3) == 0 ? 0 : 1};
+            case Calls.COME: return come(year);
+            case Calls.PASS: return new int[] {days()};
+            case Calls.TODAY: return new int[0];
+            case Calls.IS_SUBSCRIBED: return new int[] {pack(), day()};
+            case Calls.IS_IN: return new int[] {pack(), title(), day()};
+            case Calls.COVERS: return new int[] {pack(), title(), near(0, Math.min(55, year + 1)), group(), day()};
+            case Calls.WAYS: return new int[] {title(), near(0, Math.min(55, year + 1)), group(), day()};
+            case Calls.WAY_AT: return new int[] {near(0, 4), title(), near(0, Math.min(55, year + 1)), group(), day()};
+            case Calls.GAP: case Calls.DOUBLES: return new int[] {title(), group()};
+            case Calls.IS_NEEDLESS: return new int[] {pack()};
             default: return new int[] {pack(), title()};
         }
     }

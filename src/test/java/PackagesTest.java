@@ -6,18 +6,25 @@ public final class PackagesTest {
         Check.begin();
         addPackageNumbers();
         addPackageRefuses();
+        addPackageRanges();
+        refusedPackagesTakeNoNumber();
         subscribeAnswers();
         subscribeRefuses();
         comeAnswers();
         comeRefuses();
+        comeRanges();
         goAnswers();
         goRefuses();
+        goNeedsNoSubscription();
         passAndToday();
         passRefuses();
+        passToTheLastDay();
         isSubscribedOnEachDay();
         isSubscribedRefuses();
         isInOnEachDay();
         isInRefuses();
+        onTheLastDay();
+        beforeItWasAdded();
         everyTitleOfEveryPackage();
         Check.end();
     }
@@ -61,6 +68,36 @@ public final class PackagesTest {
         Check.index("5: a refused package is not there", () -> x.subscribe(0, true));
         Check.same("5: the least", x.addPackage(0, 0, 0, 0), 0);
         Check.same("5: the greatest", x.addPackage(1000, 2, 15, 1), 1);
+    }
+
+    /** Each value that an argument may have, and one less and one more. */
+    private static void addPackageRanges() {
+        int[] most = {1000, 2, 15, 1};
+        for (int which = 0; which < 4; which++) {
+            LinkResolver x = new LinkResolver();
+            for (int value = -1; value <= most[which] + 1; value++) {
+                int[] a = new int[4];
+                a[which] = value;
+                LinkResolver y = value % 10 == 0 ? new LinkResolver() : x;
+                x = y;
+                if (value < 0 || value > most[which]) {
+                    Check.argument("5: argument " + which + " at " + value, () -> y.addPackage(a[0], a[1], a[2], a[3]));
+                } else {
+                    Check.same("5: argument " + which + " at " + value, y.addPackage(a[0], a[1], a[2], a[3]), value % 10);
+                }
+            }
+        }
+    }
+
+    /** A refused package leaves no hole in the numbers, and room for the 10th. */
+    private static void refusedPackagesTakeNoNumber() {
+        LinkResolver x = new LinkResolver();
+        for (int i = 0; i < 10; i++) {
+            Check.argument("5: refused ahead of no. " + i, () -> x.addPackage(-1, 0, 15, 0));
+            Check.same("5: no. " + i, x.addPackage(i, 0, 15, 0), i);
+            Check.argument("5: refused behind no. " + i, () -> x.addPackage(0, 0, 15, 2));
+        }
+        Check.state("5: the 11th", () -> x.addPackage(0, 0, 15, 0));
     }
 
     private static void subscribeAnswers() {
@@ -141,6 +178,31 @@ public final class PackagesTest {
         Check.yes("7: the years that were count on", x.covers(0, 0, 0, 0, 0));
     }
 
+    /** All years from -1 to 56 as the first and as the last one. */
+    private static void comeRanges() {
+        for (int first = -1; first <= 56; first++) {
+            LinkResolver x = small();
+            x.subscribe(0, true);
+            for (int last = -1; last <= 56; last++) {
+                int[] a = {first, last};
+                if (first >= 0 && first <= last && last <= 55) {
+                    Check.same("7: " + first + " to " + last, x.come(0, 0, first, last, 0) ? 1 : 0, last > first ? 1 : 0);
+                } else {
+                    Check.argument("7: " + first + " to " + last, () -> x.come(0, 0, a[0], a[1], 0));
+                }
+            }
+        }
+        LinkResolver x = small();
+        for (int wall = -1; wall <= 21; wall++) {
+            int at = wall;
+            if (wall >= 0 && wall <= 20) {
+                Check.same("7: wall " + wall, x.come(0, 0, 0, 0, wall) ? 1 : 0, wall > 0 ? 1 : 0);
+            } else {
+                Check.argument("7: wall " + wall, () -> x.come(0, 0, 0, 0, at));
+            }
+        }
+    }
+
     private static void goAnswers() {
         LinkResolver x = small();
         x.addTitle(0, 1);
@@ -175,6 +237,23 @@ public final class PackagesTest {
         Check.state("8: it is gone the day after", () -> x.go(0, 0));
     }
 
+    /** A title goes whether the package is subscribed to or not, and once for each time that it comes. */
+    private static void goNeedsNoSubscription() {
+        LinkResolver x = small();
+        x.come(0, 0, 0, 55, 20);
+        x.come(0, 0, 0, 55, 0);
+        x.go(0, 0);
+        Check.state("8: it came twice, but goes once", () -> x.go(0, 0));
+        x.subscribe(0, true);
+        Check.state("8: a subscription does not let it come", () -> x.go(0, 0));
+        Check.no("8: it is not in it", x.isIn(0, 0, 0));
+        x.come(0, 0, 0, 55, 0);
+        x.subscribe(0, false);
+        Check.yes("8: a cancellation does not let it go", x.isIn(0, 0, 0));
+        x.go(0, 0);
+        Check.no("8: it has gone", x.isIn(0, 0, 0));
+    }
+
     private static void passAndToday() {
         LinkResolver x = new LinkResolver();
         Check.same("10: today at first", x.today(), 0);
@@ -201,6 +280,64 @@ public final class PackagesTest {
         Check.same("9: nothing is changed", x.today(), 5);
         Check.same("9: pass(19995)", x.pass(19995), 20000);
         Check.argument("9: pass(0) on the last day", () -> x.pass(0));
+    }
+
+    /** From each day the most that may pass, and one more; days pass one by one as well as at once. */
+    private static void passToTheLastDay() {
+        int[] from = {1, 2, 359, 360, 10000, 19998, 19999};
+        for (int day : from) {
+            LinkResolver x = new LinkResolver();
+            x.pass(day);
+            Check.state("9: one more than may pass from " + day, () -> x.pass(20001 - day));
+            Check.same("9: the most that may pass from " + day, x.pass(20000 - day), 20000);
+            Check.same("10: today then", x.today(), 20000);
+        }
+        LinkResolver x = new LinkResolver();
+        for (int day = 1; day <= 256; day++) {
+            Check.same("9: one by one, the day " + day, x.pass(1), day);
+            Check.same("10: one by one, the day " + day, x.today(), day);
+        }
+    }
+
+    private static void onTheLastDay() {
+        LinkResolver x = small();
+        x.subscribe(0, true);
+        x.come(0, 0, 0, 0, 0);
+        x.pass(20000);
+        Check.yes("11: the first day", x.isSubscribed(0, 0));
+        Check.yes("11: the last day", x.isSubscribed(0, 20000));
+        Check.argument("11: behind the last day", () -> x.isSubscribed(0, 20001));
+        Check.argument("11: ahead of the first day", () -> x.isSubscribed(0, -1));
+        Check.yes("12: the first day", x.isIn(0, 0, 0));
+        Check.yes("12: the last day", x.isIn(0, 0, 20000));
+        Check.argument("12: behind the last day", () -> x.isIn(0, 0, 20001));
+        Check.argument("12: ahead of the first day", () -> x.isIn(0, 0, -1));
+        Check.yes("6: subscribe on the last day", x.subscribe(0, false));
+        Check.yes("7: come on the last day", x.come(0, 0, 0, 0, 0));
+        x.go(0, 0);
+        Check.no("11: cancelled on the last day", x.isSubscribed(0, 20000));
+        Check.no("12: gone on the last day", x.isIn(0, 0, 20000));
+        Check.yes("11: not on the last but one", x.isSubscribed(0, 19999));
+        Check.yes("12: not on the last but one", x.isIn(0, 0, 19999));
+    }
+
+    /** What is added later was not subscribed to, nor in anything, on the days before. */
+    private static void beforeItWasAdded() {
+        LinkResolver x = small();
+        x.pass(5);
+        x.addTitle(0, 1);
+        x.addPackage(0, 0, 15, 0);
+        x.subscribe(1, true);
+        x.come(1, 1, 0, 55, 0);
+        x.come(0, 1, 0, 55, 0);
+        for (int day = 0; day <= 4; day++) {
+            Check.no("11: on the day " + day, x.isSubscribed(1, day));
+            Check.no("12: on the day " + day, x.isIn(1, 1, day));
+            Check.no("12: in an older package on the day " + day, x.isIn(0, 1, day));
+            Check.same("16: on the day " + day, x.ways(1, 0, 0, day), 0);
+        }
+        Check.yes("11: today", x.isSubscribed(1, 5));
+        Check.yes("12: today", x.isIn(1, 1, 5));
     }
 
     private static void isSubscribedOnEachDay() {

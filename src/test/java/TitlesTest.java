@@ -7,6 +7,8 @@ public final class TitlesTest {
         newObject();
         addTitleNumbers();
         addTitleRefuses();
+        equalTitles();
+        refusedTitlesTakeNoNumber();
         yearOfVolumes();
         yearOfRefuses();
         volumeOfYears();
@@ -57,6 +59,30 @@ public final class TitlesTest {
         Check.index("2: a refused title is not there", () -> x.volumeOf(0, 55));
         Check.same("2: addTitle(0, 1)", x.addTitle(0, 1), 0);
         Check.same("2: addTitle(55, 4)", x.addTitle(55, 4), 1);
+    }
+
+    /** Titles of the same words are titles of their own. */
+    private static void equalTitles() {
+        LinkResolver x = new LinkResolver();
+        Check.same("2: a title", x.addTitle(7, 2), 0);
+        Check.same("2: the same again", x.addTitle(7, 2), 1);
+        x.addPackage(0, 0, 15, 0);
+        x.come(0, 1, 0, 55, 0);
+        Check.no("2: the first one has not come", x.isIn(0, 0, 0));
+        Check.yes("2: the second one has", x.isIn(0, 1, 0));
+    }
+
+    /** A refused title leaves no hole in the numbers, and room for the 20th. */
+    private static void refusedTitlesTakeNoNumber() {
+        LinkResolver x = new LinkResolver();
+        for (int i = 0; i < 20; i++) {
+            Check.argument("2: refused ahead of no. " + i, () -> x.addTitle(56, 1));
+            Check.same("2: no. " + i, x.addTitle(i, 1), i);
+            Check.argument("2: refused behind no. " + i, () -> x.addTitle(0, 5));
+        }
+        for (int i = 0; i < 20; i++) {
+            Check.same("2: the first year of no. " + i, x.yearOf(i, 1), i);
+        }
     }
 
     private static void yearOfVolumes() {
@@ -120,7 +146,11 @@ public final class TitlesTest {
                     }
                 }
                 int above = volume;
+                int before = first - 1;
                 Check.argument("3: a volume of the year 56", () -> x.yearOf(title, above));
+                Check.argument("3: a volume of the year before the first", () -> x.yearOf(title, 0));
+                Check.argument("4: the year before the first", () -> x.volumeOf(title, before));
+                Check.argument("4: the year 56", () -> x.volumeOf(title, 56));
             }
         }
     }

@@ -17,14 +17,25 @@ public final class WaysTest {
         waysRefuse();
         wayAtOrder();
         wayAtBreaks();
+        wayAtBreaksAheadOfCosts();
+        wayAtAllBroken();
+        wayAtPlaces();
+        waysOfNoPackages();
         wayAtRefuses();
         gaps();
+        gapsOfToday();
+        gapAtEachYear();
         gapRefuses();
         doublesCount();
+        doublesOfToday();
+        doublesOfAllYears();
         doublesRefuse();
         needless();
         needlessByItself();
         needlessGroups();
+        needlessByOneGroup();
+        needlessByOneYear();
+        needlessByAnother();
         needlessRefuses();
         lastDayLastYear();
         allCallsAreChanges();
@@ -296,6 +307,79 @@ public final class WaysTest {
         Check.same("17: broken now, of an earlier day", x.wayAt(9, 0, 0, 0, 0), 5);
     }
 
+    /** Whether 0, 1, 2 or 3 breaks: fewer than 2 come ahead, whatever the cost, and more than 2 are as 2. */
+    private static void wayAtBreaksAheadOfCosts() {
+        for (int breaks = 0; breaks <= 3; breaks++) {
+            LinkResolver x = new LinkResolver();
+            x.addTitle(0, 1);
+            x.addPackage(0, 0, 15, 0);
+            x.addPackage(1000, 2, 15, 0);
+            x.addPackage(999, 2, 15, 0);
+            for (int pack = 0; pack < 3; pack++) {
+                x.subscribe(pack, true);
+                x.come(pack, 0, 0, 55, 0);
+            }
+            x.report(2, 0);
+            x.report(2, 0);
+            for (int i = 0; i < breaks; i++) {
+                x.report(0, 0);
+            }
+            boolean isAhead = breaks < 2;
+            Check.same("17: place 0, " + breaks + " breaks", x.wayAt(0, 0, 0, 0, 0), isAhead ? 0 : 1);
+            Check.same("17: place 1, " + breaks + " breaks", x.wayAt(1, 0, 0, 0, 0), isAhead ? 1 : 0);
+            Check.same("17: place 2, " + breaks + " breaks", x.wayAt(2, 0, 0, 0, 0), 2);
+            x.mend(0, 0);
+            x.report(0, 0);
+            Check.same("17: one break since they were mended", x.wayAt(0, 0, 0, 0, 0), 0);
+            x.mend(2, 0);
+            Check.same("17: mended, it moves up", x.wayAt(1, 0, 0, 0, 0), 2);
+        }
+    }
+
+    /** All broken, the ways are ordered as if none were. */
+    private static void wayAtAllBroken() {
+        int[] costs = {7, 1000, 7, 0, 7, 7, 1, 0, 999, 7};
+        int[] versions = {2, 0, 1, 2, 1, 0, 2, 2, 1, 2};
+        int[] due = {3, 7, 6, 5, 2, 4, 0, 9, 8, 1};
+        LinkResolver x = tenWays(costs, versions);
+        for (int pack = 0; pack < 10; pack++) {
+            for (int i = 0; i < 2 + pack; i++) {
+                x.report(pack, 0);
+            }
+        }
+        for (int place = 0; place < 10; place++) {
+            Check.same("17: all broken, place " + place, x.wayAt(place, 0, 0, 0, 0), due[place]);
+        }
+        Check.index("17: all broken, place 10", () -> x.wayAt(10, 0, 0, 0, 0));
+        Check.index("17: all broken, place -1", () -> x.wayAt(-1, 0, 0, 0, 0));
+    }
+
+    /** With n ways, from none to ten, there are the places 0 to n - 1. */
+    private static void wayAtPlaces() {
+        for (int ways = 0; ways <= 10; ways++) {
+            LinkResolver x = tenWays(new int[10], new int[10]);
+            for (int pack = 9; pack >= ways; pack--) {
+                x.subscribe(pack, false);
+            }
+            Check.same("16: " + ways + " ways", x.ways(0, 0, 0, 0), ways);
+            for (int place = 0; place < ways; place++) {
+                Check.same("17: place " + place + " of " + ways, x.wayAt(place, 0, 0, 0, 0), place);
+            }
+            int behind = ways;
+            Check.index("17: place " + ways + " of as many", () -> x.wayAt(behind, 0, 0, 0, 0));
+            Check.index("17: place -1 of " + ways, () -> x.wayAt(-1, 0, 0, 0, 0));
+        }
+    }
+
+    private static void waysOfNoPackages() {
+        LinkResolver x = new LinkResolver();
+        x.addTitle(0, 1);
+        Check.same("16: no packages", x.ways(0, 0, 0, 0), 0);
+        Check.index("17: no packages", () -> x.wayAt(0, 0, 0, 0, 0));
+        Check.same("18: no packages", x.gap(0, 0), 0);
+        Check.same("19: no packages", x.doubles(0, 0), 0);
+    }
+
     private static void wayAtRefuses() {
         LinkResolver x = one(0, 15, 1);
         x.subscribe(0, true);
@@ -345,6 +429,60 @@ public final class WaysTest {
         Check.same("18: a year between", x.gap(0, 1), 3);
     }
 
+    /** A gap is of today: a kept year is none, a year that had a way only once is one. */
+    private static void gapsOfToday() {
+        LinkResolver x = one(0, 15, 1);
+        x.subscribe(0, true);
+        x.come(0, 0, 0, 55, 0);
+        x.pass(720);
+        x.subscribe(0, false);
+        Check.same("18: the years 0 and 1 are kept", x.gap(0, 0), 2);
+        x.subscribe(0, true);
+        Check.same("18: no gap by 1 and 2", x.gap(0, 0), -1);
+        x.come(0, 0, 55, 55, 0);
+        Check.same("18: the year of today", x.gap(0, 0), 2);
+        LinkResolver y = one(0, 15, 0);
+        y.subscribe(0, true);
+        y.come(0, 0, 0, 55, 0);
+        y.pass(720);
+        Check.same("18: no gap by 1", y.gap(0, 0), -1);
+        y.subscribe(0, false);
+        Check.same("18: yesterday's ways are none", y.gap(0, 0), 0);
+        y.subscribe(0, true);
+        y.come(0, 0, 0, 55, 1);
+        Check.same("18: the year of today is behind the wall", y.gap(0, 0), 2);
+        y.report(0, 0);
+        y.report(0, 0);
+        Check.same("18: a broken way is one too", y.gap(0, 0), 2);
+    }
+
+    /** Each year may be the first gap: all the others of the title have a way. */
+    private static void gapAtEachYear() {
+        for (int first = 0; first <= 55; first += 11) {
+            for (int year = first; year <= 55; year++) {
+                LinkResolver x = one(first, 15, 0);
+                x.addPackage(0, 0, 15, 0);
+                x.subscribe(0, true);
+                x.subscribe(1, true);
+                if (year > 0) {
+                    x.come(0, 0, 0, year - 1, 0);
+                }
+                if (year < 55) {
+                    x.come(1, 0, year + 1, 55, 0);
+                }
+                if (year > 0) {
+                    x.pass(360 * year - 1);
+                    Check.same("18: the day before the year " + year, x.gap(0, 0), -1);
+                    x.pass(1);
+                }
+                Check.same("18: the first day of the year " + year, x.gap(0, 0), year);
+                x.pass(20000 - 360 * year);
+                Check.same("18: only the year " + year, x.gap(0, 0), year);
+                Check.same("19: no year twice", x.doubles(0, 0), 0);
+            }
+        }
+    }
+
     private static void gapRefuses() {
         LinkResolver x = one(0, 15, 1);
         for (int far : FAR) {
@@ -385,6 +523,52 @@ public final class WaysTest {
         Check.same("19: one way to the year 0", x.doubles(1, 0), 0);
         x.come(1, 1, 0, 0, 0);
         Check.same("19: two ways to the year 0", x.doubles(1, 0), 1);
+    }
+
+    /** Ways of today by 2 count, those of yesterday do not, and each year counts once. */
+    private static void doublesOfToday() {
+        LinkResolver x = one(0, 15, 1);
+        x.addPackage(0, 0, 15, 1);
+        for (int pack = 0; pack < 2; pack++) {
+            x.subscribe(pack, true);
+            x.come(pack, 0, 0, 55, 0);
+        }
+        Check.same("19: by 1", x.doubles(0, 0), 1);
+        x.pass(720);
+        Check.same("19: by 1 and 2 of one package is one way", x.doubles(0, 0), 3);
+        x.subscribe(0, false);
+        Check.same("19: by 2 and by 1", x.doubles(0, 0), 2);
+        x.subscribe(1, false);
+        Check.same("19: by 2 and by 2", x.doubles(0, 0), 2);
+        LinkResolver y = one(0, 15, 1);
+        y.subscribe(0, true);
+        y.come(0, 0, 0, 55, 0);
+        y.pass(720);
+        Check.same("19: one package by 1 and 2", y.doubles(0, 0), 0);
+    }
+
+    /** From no year to all 56, of titles that begin in each of them. */
+    private static void doublesOfAllYears() {
+        LinkResolver x = new LinkResolver();
+        for (int title = 0; title < 20; title++) {
+            x.addTitle(title * 55 / 19, 1);
+        }
+        for (int pack = 0; pack < 10; pack++) {
+            x.addPackage(0, 0, 15, 0);
+            x.subscribe(pack, true);
+            for (int title = 0; title < 20; title++) {
+                x.come(pack, title, 0, 55, 0);
+            }
+        }
+        Check.same("19: the year 0 on the first day", x.doubles(0, 0), 1);
+        Check.same("19: the year 2 on the first day", x.doubles(1, 0), 0);
+        x.pass(720);
+        Check.same("19: three years", x.doubles(0, 3), 3);
+        Check.same("19: the first year is today's", x.doubles(1, 3), 1);
+        x.pass(20000 - 720);
+        for (int title = 0; title < 20; title++) {
+            Check.same("19: all years of the title " + title, x.doubles(title, 3), 56 - title * 55 / 19);
+        }
     }
 
     private static void doublesRefuse() {
@@ -465,6 +649,76 @@ public final class WaysTest {
         x.subscribe(4, true);
         x.come(4, 0, 0, 0, 0);
         Check.yes("20: no group is let in", x.isNeedless(4));
+    }
+
+    /** Each group alone makes a package needed. */
+    private static void needlessByOneGroup() {
+        for (int group = 0; group <= 3; group++) {
+            LinkResolver x = one(0, 15, 0);
+            x.addPackage(0, 0, 15 - (1 << group), 0);
+            x.addPackage(0, 0, 1 << group, 0);
+            for (int pack = 0; pack < 3; pack++) {
+                x.come(pack, 0, 0, 55, 0);
+                x.subscribe(pack, true);
+            }
+            Check.yes("20: two share the groups, " + group, x.isNeedless(0));
+            x.subscribe(2, false);
+            Check.no("20: the group " + group + " would lose", x.isNeedless(0));
+            Check.yes("20: all the others would not", x.isNeedless(1));
+            x.subscribe(2, true);
+            x.subscribe(1, false);
+            Check.no("20: all groups but " + group + " would lose", x.isNeedless(0));
+        }
+    }
+
+    /** Of all years from the first one of the title to that of today, each makes a package needed. */
+    private static void needlessByOneYear() {
+        for (int year = 0; year <= 55; year++) {
+            LinkResolver x = one(year, 15, 0);
+            x.subscribe(0, true);
+            x.come(0, 0, year, year, 0);
+            if (year > 0) {
+                x.pass(360 * year - 1);
+                Check.yes("20: the year " + year + " is to come", x.isNeedless(0));
+                x.pass(1);
+            }
+            Check.no("20: the year " + year + " is today's", x.isNeedless(0));
+            x.pass(20000 - 360 * year);
+            Check.no("20: the year " + year + " has been", x.isNeedless(0));
+            if (year > 0) {
+                x.come(0, 0, 0, year - 1, 0);
+                Check.yes("20: the years before " + year + " don't matter", x.isNeedless(0));
+            }
+            x.addTitle(55, 1);
+            x.come(0, 1, 55, 55, 0);
+            Check.no("20: another title matters", x.isNeedless(0));
+        }
+    }
+
+    /** What another package keeps covers too; what it covered yesterday, or for others, does not. */
+    private static void needlessByAnother() {
+        LinkResolver x = one(0, 15, 0);
+        x.addPackage(0, 0, 15, 1);
+        for (int pack = 0; pack < 2; pack++) {
+            x.subscribe(pack, true);
+            x.come(pack, 0, 0, 0, 0);
+        }
+        x.pass(359);
+        Check.yes("20: the other one covers it by 1", x.isNeedless(0));
+        x.subscribe(1, false);
+        Check.no("20: the other one is cancelled on the last day", x.isNeedless(0));
+        x.subscribe(1, true);
+        x.pass(1);
+        x.subscribe(1, false);
+        Check.yes("20: the other one covers it by 2", x.isNeedless(0));
+        Check.yes("20: cancelled, it needs nothing", x.isNeedless(1));
+        x.go(0, 0);
+        Check.yes("20: the title is gone", x.isNeedless(0));
+        Check.yes("20: the other one keeps it by itself", x.isNeedless(1));
+        x.report(1, 0);
+        x.report(1, 0);
+        x.come(0, 0, 0, 0, 0);
+        Check.yes("20: a broken way covers too", x.isNeedless(0));
     }
 
     private static void needlessRefuses() {
