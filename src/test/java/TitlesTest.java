@@ -134,8 +134,8 @@ public final class TitlesTest {
 
     private static void everyVolumeOfEveryTitle() {
         for (int first = 0; first <= 55; first++) {
-            LinkResolver x = new LinkResolver();
             for (int volumes = 1; volumes <= 4; volumes++) {
+                LinkResolver x = new LinkResolver();
                 int title = x.addTitle(first, volumes);
                 int volume = 1;
                 for (int year = first; year <= 55; year++) {
