@@ -29,6 +29,23 @@ final class Calls {
     private Calls() {
     }
 
+    static String name(int which) {
+        return NAMES[which];
+    }
+
+    static int promise(int which) {
+        return which + FIRST_PROMISE;
+    }
+
+    static int numbered(String name) {
+        for (int which = 0; which < NAMES.length; which++) {
+            if (NAMES[which].equals(name)) {
+                return which;
+            }
+        }
+        throw new IllegalArgumentException("no such call: " + name);
+    }
+
     /** A boolean answers as 1 or 0, and so is told; nothing answers as 0. */
     static long make(LinkResolver x, int which, int... a) {
         switch (which) {
@@ -75,7 +92,7 @@ final class Calls {
 
     static String told(int which, int... a) {
         StringBuilder told = new StringBuilder();
-        told.append(which + FIRST_PROMISE).append(": ").append(NAMES[which]).append('(');
+        told.append(promise(which)).append(": ").append(NAMES[which]).append('(');
         for (int i = 0; i < a.length; i++) {
             told.append(i == 0 ? "" : ", ").append(a[i]);
         }
